@@ -446,17 +446,14 @@ public final class WordHedges {
             super(number, high);
         }
 
-        @Override
         int kind() {
             return 1;
         }
 
-        @Override
         int growth(int word) {
             return word > 0 ? FOOT * word / 2 : 3 * word;
         }
 
-        @Override
         int telling(Trace trace) {
             trace.enter(2);
             return super.telling(trace) + 100;
@@ -468,25 +465,21 @@ public final class WordHedges {
             super(number, high);
         }
 
-        @Override
         int kind() {
             return 2;
         }
 
-        @Override
         int growth(int word) {
             if (word > 0) return super.growth(word);
             return word == 0 ? -6 : 0;
         }
 
-        @Override
         int telling(Trace trace) {
             trace.enter(3);
             int asYew = super.telling(trace);
             return asYew + plainTelling(trace);
         }
 
-        @Override
         int leaning(Trace trace) {
             trace.enter(5);
             return 20;

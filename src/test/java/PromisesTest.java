@@ -122,6 +122,11 @@ public final class PromisesTest {
         Due.is("trace goes on", x.trace(), 1);
         Due.is("fewer", Due.told(x, 0, "g1h22"), 2);
         Due.is("hedge 1 is gone", x.ofHedge(1, 0), UNKNOWN);
+        Due.is("hedge 1 is gone", x.goats(0), 3);
+        Due.is("hedge 1 is gone", x.round(0, 2), 0);
+        Due.is("hedge 1 is gone", x.fines(-1, 0), 60);
+        Due.is("hedge 1 is gone", x.mean(0, 0), 24);
+        Due.is("hedge 1 is gone", x.mean(0, 1), 1);
     }
 
     // Promises 3, 4
@@ -430,6 +435,9 @@ public final class PromisesTest {
         x.say(1, 1, 3, -1);
         Due.is("else as told", x.quarrel(0, 3, 3, 1), 10);
         Due.is("else as told", x.quarrel(0, 2, 2, 1), 9);
+        x.say(2, 0, 9, -1);
+        x.say(1, 1, 3, 0);
+        Due.is("the other one, quiet, keeps it low", x.quarrel(1, 10, 10, 0), 10);
         WordHedges y = Due.planted("g0h20");
         y.say(0, 1, 0, 1);
         Due.is("against goats", y.quarrel(0, 1, 1, 1), 11);
@@ -473,6 +481,10 @@ public final class PromisesTest {
         y.say(1, 1, 5, 3);
         Due.is("to its right hedge it said 3", y.peace(5), 2 + 4);
         Due.is("last day", y.peace(29), 2 + 4);
+        WordHedges z = Due.planted("g9h90");
+        z.say(0, 1, 0, 3);
+        z.say(1, 0, 0, 3);
+        Due.is("the first one, to its right", z.peace(0), 1);
         Due.is("day", y.peace(30), OUTSIDE);
         Due.is("day", y.peace(-1), OUTSIDE);
     }
@@ -539,6 +551,9 @@ public final class PromisesTest {
         x.say(1, 0, 1, -1);
         Due.is("no divisor", x.mean(2, 0), 3);
         Due.is("no divisor", x.mean(30, 1), 4);
+        x.say(3, 1, 1, 1);
+        x.say(4, 0, 1, 1);
+        Due.is("the last hedge, too", x.mean(2, 0), 15);
         Due.is("dawn", x.mean(31, 0), LOST);
         Due.is("dawn", x.mean(-1, 0), LOST);
         Due.is("which", x.mean(0, 2), LOST);
