@@ -47,7 +47,7 @@ public final class ModelTest {
             String[] parts = CALLS_OF_THE_FACE[random.nextInt(CALLS_OF_THE_FACE.length)].split(" ");
             int[] numbers = new int[parts.length - 1];
             for (int k = 0; k < numbers.length; k++) numbers[k] = number(parts[k + 1]);
-            if (parts[0].equals("reading") && random.nextInt(4) > 0) numbers[3] = real.face(numbers[0], numbers[1], numbers[2]);
+            if (parts[0].equals("reading") && random.nextInt(4) > 0) numbers[3] = model.face(numbers[0], numbers[1], numbers[2]);
             if (!alike(parts[0], numbers)) return false;
         }
         return true;

@@ -245,6 +245,12 @@ public final class WordEdgesTest {
             Due.is("the other hedge", x.quarrel(1, day, day, 0), 9);
         }
         Due.is("to the last day: light is had", x.quarrel(0, 0, 29, 1), 10);
+        WordHedges late = Due.planted("g0h69h50");
+        late.say(1, 1, 28, 1);
+        late.say(2, 0, 28, 1);
+        for (int first = 0; first <= 28; first++) Due.is("for light at last, from day " + first, late.quarrel(0, first, 28, 1), 9);
+        Due.is("not yet", late.quarrel(0, 0, 27, 1), 10);
+        Due.is("no more", late.quarrel(0, 0, 29, 1), 10);
         Due.is("the last two days", x.quarrel(0, 28, 29, 1), 10);
         WordHedges y = Due.planted("g0h20");
         y.say(0, 1, 28, 1);
@@ -281,6 +287,11 @@ public final class WordEdgesTest {
         Due.is("42 and 36 inches: 36 by the left one's silence", b.quarrel(0, 2, 2, 1), 9);
         b.say(1, 0, 1, -1);
         Due.is("42 and 42 inches: both by silence", b.quarrel(0, 2, 2, 1), 10);
+        WordHedges y = Due.planted("g0h69h60");
+        y.say(2, 0, 0, -1);
+        y.say(2, 0, 1, 3);
+        Due.is("72 and 69 inches: 69 by the right one's silence", y.quarrel(1, 1, 1, 0), 10);
+        Due.is("72 and 72 inches", y.quarrel(1, 0, 0, 0), 9);
     }
 
     // Terms 4: "all else as told, and as chosen till then"
@@ -333,6 +344,10 @@ public final class WordEdgesTest {
         Due.is("by another one of three", x.peace(0), 2);
         WordHedges y = Due.planted("g0h69h69");
         Due.is("two want light, one has it", y.peace(29), 2);
+        WordHedges z = Due.planted("g0h69h70");
+        z.clip(1, 29, 6);
+        Due.is("at the dawn behind it: 6 and 6 feet", z.peace(29), 2);
+        Due.is("at the dawn ahead of that: 6 and 7 feet", z.peace(28), 0);
     }
 
     // Terms 4: "to one of their HEDGES": the first garden has one, the last one, too
