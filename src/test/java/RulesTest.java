@@ -19,6 +19,8 @@ public final class RulesTest {
         "int tell 1", "int lean 1", "int as 2", "int trace 0", "int fault 0", "int many 1"};
     private static final String FORBIDDEN = "\\b(throw|try|catch|throws|synchronized|assert|volatile|double|float|protected)\\b"
         + "|->|::|Exact\\(|\\.hashCode|\\.toString|System\\.(?!arraycopy)|Objects|import (?!java\\.util\\.Arrays;)";
+    /** Of LANGUAGE.md's list what the class needs: another one is added here once it has been looked up there. */
+    private static final String LIBRARY = "Math\\.(abs|max|min)|Arrays\\.fill|System\\.arraycopy";
 
     public static void main(String[] args) throws IOException {
         face();
@@ -73,6 +75,9 @@ public final class RulesTest {
             Due.holds(c + " is static", Modifier.isStatic(c.getModifiers()));
             Due.holds(c + " has at most twenty fields", c.getDeclaredFields().length <= 20);
             for (Method m : c.getDeclaredMethods()) Due.holds(m + " takes at most seven", m.getParameterCount() <= 7);
+            for (Field f : c.getDeclaredFields()) {
+                if (Modifier.isStatic(f.getModifiers())) Due.holds(f + " is final", Modifier.isFinal(f.getModifiers()));
+            }
         }
     }
 
@@ -80,6 +85,8 @@ public final class RulesTest {
         String bare = text.replaceAll("(?s)/\\*.*?\\*/", "").replaceAll("//[^\n]*", "");
         Matcher forbidden = Pattern.compile(FORBIDDEN).matcher(bare);
         while (forbidden.find()) Due.holds("'" + forbidden.group() + "' does not stand in the source", false);
+        Matcher library = Pattern.compile("\\b(?!Text\\.)[A-Z][A-Za-z]*\\.[a-z][A-Za-z]*").matcher(bare);
+        while (library.find()) Due.holds(library.group() + " is of the library that is allowed", library.group().matches(LIBRARY));
         Due.holds("the source is of plain signs", text.chars().allMatch(c -> c == '\n' || c >= 32 && c < 127));
         methodsAreShort(text.split("\n"));
     }
